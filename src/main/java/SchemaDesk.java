@@ -27,26 +27,31 @@ public final class SchemaDesk {
     private static final int MOST_ELEMENTS = 20;
     private static final int MOST_FIGURES = 20;
 
+    private static final long MOST_INT = 2147483647L;
+    private static final long MOST_LONG = 9223372036854775807L;
     private static final int INT_BITS = 32;
     private static final int LONG_BITS = 64;
     private static final long FINGERPRINT = -4513414715797952619L;
 
     private final Row text;
-    private final Row stream;
+    /** The text as a schema, as soon as it was read as one. */
     private final Schema candidate;
+    private final Row stream;
     private final Subject[] subjects;
     private final int[] fieldStarts;
+    /** OUT. */
     private Row shown;
-    /** OUT is prepared here and changed for the shown one at the end, so that a call that throws leaves OUT alone. */
+    /** What OUT becomes is made here, and the two are changed at the end, so that a call that throws leaves OUT alone. */
     private Row draft;
     private int lastPlace;
 
     public SchemaDesk() {
-        text = new Row(new int[MOST_CHARACTERS], 0);
+        Row characters = new Row(new int[MOST_CHARACTERS], 0);
+        text = characters;
+        candidate = new Schema(characters, new int[MOST_CHARACTERS], new int[MOST_CHARACTERS]);
         stream = new Row(new int[MOST_BYTES], 0);
         shown = new Row(new int[MOST_SHOWN], 0);
         draft = new Row(new int[MOST_SHOWN], 0);
-        candidate = new Schema(text, new int[MOST_CHARACTERS], new int[MOST_CHARACTERS]);
         subjects = new Subject[SUBJECTS];
         for (int i = 0; i < SUBJECTS; i++) {
             subjects[i] = new Subject();
@@ -857,9 +862,9 @@ public final class SchemaDesk {
                 case 'B':
                     return readBoolean();
                 case 'I':
-                    return readNumber(Integer.MAX_VALUE);
+                    return readNumber(MOST_INT);
                 case 'L':
-                    return readNumber(Long.MAX_VALUE);
+                    return readNumber(MOST_LONG);
                 case 'S':
                     return readString();
                 case 'E':

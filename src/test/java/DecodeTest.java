@@ -143,6 +143,11 @@ public final class DecodeTest {
         stuck("R(a:I,b:S,c:U(N,I),d:E(xyz))", 4, 7, 2, 104, 0, 6);
         stuck("R(a:I,b:S,c:U(N,I),d:E(xyz))", 5, 7, 2, 104, 0, 4, 0);
         read("R(a:N,b:N)", "{N,N}");
+        stuck("R(a:I,b:I)", 1, 128, 0, 0);
+        stuck("R(a:B,b:B)", 0, 2, 0);
+        stuck("R(a:S,b:N)", 1, 2);
+        stuck("R(a:AB,b:N)", 1, 4, 2, 0);
+        stuck("AI", 2, 4, 128, 0, 0);
     }
 
     private static void resolvingPlain() {
@@ -164,6 +169,7 @@ public final class DecodeTest {
         resolve("E(abc)", "E(cb=b)", "b", 0);
         resolve("E(abc)", "E(cb=b)", "c", 4);
         resolve("E(abc=a)", "E(cb)", Due.STATE, 0);
+        resolve("E(abc)", "E(xyz=x)", "x", 4);
     }
 
     private static void resolvingUnions() {
@@ -217,6 +223,14 @@ public final class DecodeTest {
             resolve("R(a:N)", "R(b:" + one[0] + ")", "{" + one[1] + "}");
             resolve("R(a:N)", "R(b:" + one[0] + ",a:U(B,N))", "{" + one[1] + ",1:N}");
         }
+        Desk desk = new Desk();
+        desk.register(0, "R(q:AU(N,I)=[N,N])");
+        desk.register(0, "R(q:E(nopq)=n,b:N)");
+        desk.register(0, "R(q:AAAAAN=[],b:N)");
+        desk.register(0, "R(q:S=\"1234567\")");
+        desk.register(0, "R(z:N)");
+        DUE.is("a default is of its own version", "{[0:N,0:N]}", desk.decode(0, 4, 0, new int[0]));
+        DUE.is("a default is of its own version", "{\"1234567\"}", desk.decode(0, 4, 3, new int[0]));
     }
 
     private static void lengthLimit() {
@@ -239,6 +253,9 @@ public final class DecodeTest {
         DUE.is("a tenth of nine", 399, desk.decode(0, 0, 0));
         DUE.is("the length of out", 399, desk.row().size());
         exactly400();
+        resolve("AAN", "AAU(N,B)", Due.STATE, nine);
+        resolve("R(a:AAN)", "R(a:AAN,b:AS=[\"123456789012\",\"1234\"])", Due.STATE, nine);
+        resolve("R(a:AAN)", "R(b:S=\"123456789012\",c:S=\"12\",a:AAN)", Due.STATE, nine);
     }
 
     /** A string of each length, so that the value has from 388 to 400 characters, or more. */

@@ -69,6 +69,13 @@ public final class PrintTest {
             DUE.is("fingerprint of subject " + subject, Due.ARGUMENT, desk.fingerprint(subject, 0));
         }
         DUE.is("out is left", "I", desk.shown());
+        String[] six = {"N", "B", "I", "L", "S", "AN"};
+        for (String schema : six) {
+            desk.register(2, schema);
+        }
+        DUE.is("print of version 5 of six", 2, desk.print(2, 5, false));
+        DUE.is("print of version 6 of six", Due.ARGUMENT, desk.print(2, 6, false));
+        desk.print(1, 0, true);
         DUE.is("place is left", -1, desk.inner.place());
         desk.register(1, "(");
         desk.print(1, 0, true);

@@ -56,7 +56,9 @@ public final class SchemaTextTest {
 
     private static void plainFaults() {
         String[] texts = {"|", "|n", "| N", "N| ", "N|N", "|X", "|(N)", "A|", "A|)", "|D", "|0", "|=", "I|=5", "AI|=[]",
-            "U|N", "R|a:N", "E|ab", "E(| "};
+            "U|N", "R|a:N", "E|ab", "E(| ", "R(a:E|)", "R(a:E(|),b:N)", "R(a:E(x|,b:N)", "R(a:E(x=|),b:N)", "U(|U",
+            "R(a:U|,b:N)", "R(a:U(|),b:N)", "R(a:U(N|),b:N)", "R(a:U(N,B,|b:N)", "R(a:R|)", "R(a:R(|),b:N)", "R(a:R(b|),c:N)",
+            "R(a:R(b:|),c:N)", "R(a:A|)", "U(E|,N)", "U(N,R|)", "U(N,A|)"};
         for (String text : texts) {
             bad(text);
         }
