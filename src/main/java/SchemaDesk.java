@@ -602,10 +602,15 @@ public final class SchemaDesk {
         }
 
         static boolean canRead(Schema reader, Schema writer) {
-            return canRead(reader, 0, writer, 0, 0);
+            return canReadType(reader, 0, writer, 0, 0);
         }
 
-        static boolean canRead(Schema reader, int to, Schema writer, int from, int depth) {
+        /** The number of the first branch of a U that reads a type, NONE without one. */
+        static int firstReadingBranch(Schema reader, int union, Schema writer, int from) {
+            return readingBranch(reader, union, writer, from, 0);
+        }
+
+        private static boolean canReadType(Schema reader, int to, Schema writer, int from, int depth) {
             if (depth > DEEPEST) {
                 return false;
             }
@@ -624,7 +629,7 @@ public final class SchemaDesk {
                 case 'E':
                     return canReadSymbols(reader, to, writer, from);
                 case 'A':
-                    return canRead(reader, reader.element(to), writer, writer.element(from), depth + 1);
+                    return canReadType(reader, reader.element(to), writer, writer.element(from), depth + 1);
                 case 'R':
                     return canReadFields(reader, to, writer, from, depth);
                 default:
@@ -632,11 +637,10 @@ public final class SchemaDesk {
             }
         }
 
-        /** The number of the first branch of a U that reads a type, NONE without one. */
-        static int readingBranch(Schema reader, int union, Schema writer, int from, int depth) {
+        private static int readingBranch(Schema reader, int union, Schema writer, int from, int depth) {
             int branch = reader.firstPart(union);
             for (int i = 0; i < MOST_BRANCHES && branch != NONE; i++) {
-                if (canRead(reader, branch, writer, from, depth + 1)) {
+                if (canReadType(reader, branch, writer, from, depth + 1)) {
                     return i;
                 }
                 branch = reader.nextBranch(branch);
@@ -647,7 +651,7 @@ public final class SchemaDesk {
         private static boolean canReadBranches(Schema reader, int to, Schema writer, int union, int depth) {
             int branch = writer.firstPart(union);
             for (int i = 0; i < MOST_BRANCHES && branch != NONE; i++) {
-                if (!canRead(reader, to, writer, branch, depth + 1)) {
+                if (!canReadType(reader, to, writer, branch, depth + 1)) {
                     return false;
                 }
                 branch = writer.nextBranch(branch);
@@ -674,7 +678,7 @@ public final class SchemaDesk {
                 int source = writer.fieldNamed(from, reader.at(field));
                 boolean filled = source == NONE
                         ? reader.fieldDefault(field) != NONE
-                        : canRead(reader, reader.fieldType(field), writer, writer.fieldType(source), depth + 1);
+                        : canReadType(reader, reader.fieldType(field), writer, writer.fieldType(source), depth + 1);
                 if (!filled) {
                     return false;
                 }
@@ -826,7 +830,7 @@ public final class SchemaDesk {
 
         private boolean readFieldDefault(int type) {
             int start = cursor.at();
-            if (!literals.readPart(type, 0)) {
+            if (!literals.readLiteral(type)) {
                 return false;
             }
             schema.markEnd(start, cursor.at());
@@ -852,7 +856,11 @@ public final class SchemaDesk {
             return readPart(0, 0) && cursor.isAtEnd();
         }
 
-        boolean readPart(int type, int depth) {
+        boolean readLiteral(int type) {
+            return readPart(type, 0);
+        }
+
+        private boolean readPart(int type, int depth) {
             if (depth > MOST_NESTED) {
                 return false;
             }
@@ -1035,7 +1043,11 @@ public final class SchemaDesk {
             return number;
         }
 
-        boolean skip(int type, int depth) {
+        boolean skipField(int type) {
+            return skip(type, 0);
+        }
+
+        private boolean skip(int type, int depth) {
             if (depth > MOST_NESTED) {
                 return false;
             }
@@ -1242,7 +1254,7 @@ public final class SchemaDesk {
         }
 
         private boolean resolveAsBranch(int from, int to, int depth) {
-            int number = Compatibility.readingBranch(reader, to, writer, from, depth);
+            int number = Compatibility.firstReadingBranch(reader, to, writer, from);
             return number != NONE
                     && target.add('0' + number)
                     && target.add(':')
@@ -1356,7 +1368,7 @@ public final class SchemaDesk {
                     return false;
                 }
                 fieldStarts[field] = cursor.at();
-                if (!bytes.skip(writer.fieldType(field), 0)) {
+                if (!bytes.skipField(writer.fieldType(field))) {
                     return false;
                 }
                 field = writer.nextField(field);
