@@ -99,6 +99,12 @@ public final class ResolveEdgesTest {
         reads("U(I,N)", "U(N,I)", true);
         reads("U(S,N)", "U(N,I)", false);
         reads("U(B,S,L,N)", "U(N,I)", true);
+        for (String three : new String[] {"U(B,I,S)", "U(N,I,S)", "U(N,B,S)", "U(N,B,I)"}) {
+            reads(three, "U(N,B,I,S)", false);
+        }
+        reads("U(S,I,B,N)", "U(N,B,I,S)", true);
+        as("U(N,B,I,S)", "U(S,I,B,N)", "0:\"\"", 6, 0);
+        as("U(N,B,I,S)", "U(S,I,B,N)", "3:N", 0);
     }
 
     /** "if r is a U: it becomes a value of its first branch that READS w, resolved as that" */
@@ -237,6 +243,14 @@ public final class ResolveEdgesTest {
         as("R(a:N)", "R(b:R(x:U(N,B),y:B,z:U(B,N))={N,T,F})", "{{0:N,T,0:F}}");
         as("R(a:N)", "R(b:AU(N,B)=[])", "{[]}");
         as("R(a:N)", "U(N,R(b:U(N,B)=N))", "1:{0:N}");
+        Desk desk = new Desk();
+        desk.register(0, "R(b:AU(N,B)=[N,N,N])");
+        desk.register(0, "R(b:S=\"1234567890\")");
+        desk.register(0, "R(b:AU(B,N)=[T])");
+        desk.register(0, "R(a:N)");
+        DUE.is("what is no U behind what was one", "{\"1234567890\"}", desk.decode(0, 3, 1, new int[0]));
+        DUE.is("a U", "{[0:T]}", desk.decode(0, 3, 2, new int[0]));
+        DUE.is("a U that was kept", "{[0:N,0:N,0:N]}", desk.decode(0, 3, 0, new int[0]));
     }
 
     /** "r READS w if every value of w can be resolved as r": one that can't be is enough. */

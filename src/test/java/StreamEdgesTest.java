@@ -18,6 +18,7 @@ public final class StreamEdgesTest {
         symbols();
         branches();
         fields();
+        sixInOneAnother();
         noElements();
         twentyElements();
         severalParts();
@@ -89,6 +90,11 @@ public final class StreamEdgesTest {
         }
         next("I", WHOLE, 128, 1);
         next("I", WHOLE, 255, 255, 255, 255, 15);
+        // What may not end the number may not begin what comes next either.
+        next("R(a:I,b:I)", "1..255", 128);
+        next("R(a:I,b:I)", "1..15", 128, 128, 128, 128);
+        next("AI", "1..15", 4, 128, 128, 128, 128);
+        next("R(a:I,b:I)", "0..255", 128, 128, 128, 128, 15);
     }
 
     /** "as few as can be", and only what fits a long. */
@@ -171,6 +177,16 @@ public final class StreamEdgesTest {
         next("R(a:B,b:E(q),c:U(N,B))", WHOLE, 1, 0, 0);
         next("R(a:N,b:N,c:N,d:N,e:N,f:B)", "0..1");
         next("R(a:B=T)", "0..1");
+    }
+
+    /** "(six of them, then, one in the other)": a stream is read as deep. */
+    private static void sixInOneAnother() {
+        next("R(a:R(a:R(a:R(a:R(a:R(a:B))))))", "0..1");
+        next("AAAAAAB", "0..1", 2, 2, 2, 2, 2, 2);
+        next("U(AU(AU(AB,N),N),N)", "0..1", 0, 2, 0, 2, 0, 2);
+        reads("R(a:R(a:R(a:R(a:R(a:R(a:B))))))", "{{{{{{T}}}}}}", 1);
+        reads("AAAAAAB", "[[[[[[T]]]]]]", 2, 2, 2, 2, 2, 2, 1, 0, 0, 0, 0, 0, 0);
+        reads("AU(AU(AU(N,B),N),N)", "[0:[0:[1:T]]]", 2, 0, 2, 0, 2, 2, 1, 0, 0, 0);
     }
 
     /** "of A: nothing but a 0 if it has no elements" */

@@ -19,6 +19,8 @@ public final class SubjectEdgesTest {
         modesOneByOne();
         getsOnByMode();
         withTheLatestOrAll();
+        withItsOwnAlone();
+        askingChangesNothing();
         registerThatThrows();
         encodeThatThrows();
         decodeThatThrows();
@@ -60,16 +62,16 @@ public final class SubjectEdgesTest {
         DUE.is(call + " is told", false, settled.told().equals(Settled.begun().told()));
     }
 
-    /** A call that is refused as is due, and leaves all as it was but for the place, which is told. */
-    private static void refused(String call, Object due, int place, Supplier<Settled> made, Function<Desk, Object> does) {
+    /** A call answers as is due, and leaves all as it was but for the place, which is told. */
+    private static void leaves(String call, Object due, int place, Supplier<Settled> made, Function<Desk, Object> does) {
         Settled settled = made.get();
         DUE.is(call, due, does.apply(settled.desk));
         DUE.is("what is left behind " + call, made.get().told(), settled.told(place));
     }
 
     /** The same, with the text and the stream begun, and the place left too. */
-    private static void refused(String call, Object due, Function<Desk, Object> does) {
-        refused(call, due, Settled.PLACE, Settled::begun, does);
+    private static void leaves(String call, Object due, Function<Desk, Object> does) {
+        leaves(call, due, Settled.PLACE, Settled::begun, does);
     }
 
     /** "SUBJECTS are 0 .. 3" */
@@ -91,14 +93,14 @@ public final class SubjectEdgesTest {
     /** "illegal argument: also if there is no such subject": in each call, and nothing changes, not even the place. */
     private static void noSuchSubject() {
         for (int none : NO_SUBJECTS) {
-            refused("mode of " + none, Due.ARGUMENT, d -> d.mode(none, 0));
-            refused("register in " + none, Due.ARGUMENT, d -> d.register(none));
-            refused("versions of " + none, Due.ARGUMENT, d -> d.versions(none));
-            refused("reads in " + none, Due.ARGUMENT, d -> d.reads(none, 0, 0));
-            refused("print in " + none, Due.ARGUMENT, d -> d.print(none, 0, true));
-            refused("fingerprint in " + none, Due.ARGUMENT, d -> d.fingerprint(none, 0));
-            refused("encode in " + none, Due.ARGUMENT, d -> d.encode(none, 0));
-            refused("decode in " + none, Due.ARGUMENT, d -> d.decode(none, 0, 0));
+            leaves("mode of " + none, Due.ARGUMENT, d -> d.mode(none, 0));
+            leaves("register in " + none, Due.ARGUMENT, d -> d.register(none));
+            leaves("versions of " + none, Due.ARGUMENT, d -> d.versions(none));
+            leaves("reads in " + none, Due.ARGUMENT, d -> d.reads(none, 0, 0));
+            leaves("print in " + none, Due.ARGUMENT, d -> d.print(none, 0, true));
+            leaves("fingerprint in " + none, Due.ARGUMENT, d -> d.fingerprint(none, 0));
+            leaves("encode in " + none, Due.ARGUMENT, d -> d.encode(none, 0));
+            leaves("decode in " + none, Due.ARGUMENT, d -> d.decode(none, 0, 0));
         }
     }
 
@@ -106,14 +108,14 @@ public final class SubjectEdgesTest {
     private static void noSuchVersion() {
         int subject = Settled.READING;
         for (int none : NO_VERSIONS) {
-            refused("reads by " + none, Due.ARGUMENT, d -> d.reads(subject, none, 0));
-            refused("reads of " + none, Due.ARGUMENT, d -> d.reads(subject, 0, none));
-            refused("print of " + none, Due.ARGUMENT, d -> d.print(subject, none, false));
-            refused("print of " + none + " bare", Due.ARGUMENT, d -> d.print(subject, none, true));
-            refused("fingerprint of " + none, Due.ARGUMENT, d -> d.fingerprint(subject, none));
-            refused("encode of " + none, Due.ARGUMENT, d -> d.encode(subject, none));
-            refused("decode from " + none, Due.ARGUMENT, d -> d.decode(subject, none, 0));
-            refused("decode to " + none, Due.ARGUMENT, d -> d.decode(subject, 0, none));
+            leaves("reads by " + none, Due.ARGUMENT, d -> d.reads(subject, none, 0));
+            leaves("reads of " + none, Due.ARGUMENT, d -> d.reads(subject, 0, none));
+            leaves("print of " + none, Due.ARGUMENT, d -> d.print(subject, none, false));
+            leaves("print of " + none + " bare", Due.ARGUMENT, d -> d.print(subject, none, true));
+            leaves("fingerprint of " + none, Due.ARGUMENT, d -> d.fingerprint(subject, none));
+            leaves("encode of " + none, Due.ARGUMENT, d -> d.encode(subject, none));
+            leaves("decode from " + none, Due.ARGUMENT, d -> d.decode(subject, none, 0));
+            leaves("decode to " + none, Due.ARGUMENT, d -> d.decode(subject, 0, none));
         }
         Desk desk = new Desk();
         DUE.is("print of 0 where there is none", Due.ARGUMENT, desk.print(0, 0, false));
@@ -204,39 +206,64 @@ public final class SubjectEdgesTest {
         }
     }
 
+    /** A schema gets on with the versions of its own subject; those of others do not count. */
+    private static void withItsOwnAlone() {
+        for (int mode = 0; mode <= 6; mode++) {
+            Desk desk = new Desk();
+            for (int subject = 0; subject < 4; subject++) {
+                desk.mode(subject, mode);
+                DUE.is("the first by mode " + mode, 0, desk.register(subject, SIX[subject]));
+            }
+            for (int subject = 0; subject < 4; subject++) {
+                DUE.is("another one by mode " + mode, mode == 0 ? "1" : Due.STATE, desk.register(subject, "AB"));
+            }
+        }
+    }
+
+    /** Calls that only ask leave text, stream, OUT, versions, modes and the place as they are. */
+    private static void askingChangesNothing() {
+        leaves("versions", 4, d -> d.versions(Settled.READING));
+        leaves("reads", false, d -> d.reads(Settled.READING, 1, 2));
+        leaves("reads", true, d -> d.reads(Settled.READING, 0, 1));
+        leaves("fingerprint", "true", d -> "" + (d.fingerprint(Settled.READING, 0).length() > 1));
+        leaves("place", Settled.PLACE, d -> d.inner.place());
+        leaves("out", 12, d -> d.out(0));
+        leaves("write of nothing", true, d -> d.inner.write(0));
+    }
+
     private static Settled withText(String text, String textEnd) {
         return new Settled(text, textEnd, new int[] {4, 120}, 121, 0);
     }
 
     /** "A call that throws changes nothing but what place() tells": register. */
     private static void registerThatThrows() {
-        refused("register of a text begun", Due.ARGUMENT, 8, () -> withText("R(a:N,b:", "B)"), d -> d.register(Settled.PAIRED));
-        refused("register of a wrong text", Due.ARGUMENT, 6, () -> withText("R(a:N,a:N)", ""), d -> d.register(Settled.PAIRED));
-        refused("register of no text", Due.ARGUMENT, 0, () -> withText("", "E(abc=b)"), d -> d.register(Settled.PAIRED));
-        refused("register in a full one", Due.STATE, Settled.PLACE, () -> withText("AL", ""), d -> d.register(Settled.FULL));
-        refused("register of what does not get on", Due.STATE, Settled.PLACE, () -> withText("E(abc=b)", ""),
+        leaves("register of a text begun", Due.ARGUMENT, 8, () -> withText("R(a:N,b:", "B)"), d -> d.register(Settled.PAIRED));
+        leaves("register of a wrong text", Due.ARGUMENT, 6, () -> withText("R(a:N,a:N)", ""), d -> d.register(Settled.PAIRED));
+        leaves("register of no text", Due.ARGUMENT, 0, () -> withText("", "E(abc=b)"), d -> d.register(Settled.PAIRED));
+        leaves("register in a full one", Due.STATE, Settled.PLACE, () -> withText("AL", ""), d -> d.register(Settled.FULL));
+        leaves("register of what does not get on", Due.STATE, Settled.PLACE, () -> withText("E(abc=b)", ""),
             d -> d.register(Settled.PAIRED));
     }
 
     /** "A call that throws changes nothing but what place() tells": encode. */
     private static void encodeThatThrows() {
-        refused("encode of a text begun", Due.ARGUMENT, 9, Settled::begun, d -> d.encode(Settled.READING, 0));
-        refused("encode of a wrong text", Due.ARGUMENT, 1, Settled::begun, d -> d.encode(Settled.READING, 2));
-        refused("encode of no text", Due.ARGUMENT, 0, () -> withText("", "{\"\",[]}"), d -> d.encode(Settled.READING, 0));
-        refused("encode of a schema", Due.ARGUMENT, 0, () -> withText("AL", ""), d -> d.encode(Settled.READING, 0));
+        leaves("encode of a text begun", Due.ARGUMENT, 9, Settled::begun, d -> d.encode(Settled.READING, 0));
+        leaves("encode of a wrong text", Due.ARGUMENT, 1, Settled::begun, d -> d.encode(Settled.READING, 2));
+        leaves("encode of no text", Due.ARGUMENT, 0, () -> withText("", "{\"\",[]}"), d -> d.encode(Settled.READING, 0));
+        leaves("encode of a schema", Due.ARGUMENT, 0, () -> withText("AL", ""), d -> d.encode(Settled.READING, 0));
     }
 
     /** "A call that throws changes nothing but what place() tells": decode. */
     private static void decodeThatThrows() {
         int subject = Settled.READING;
-        refused("decode of a stream begun", Due.ARGUMENT, 5, Settled::begun, d -> d.decode(subject, 0, 0));
-        refused("decode of a wrong stream", Due.ARGUMENT, 2, Settled::begun, d -> d.decode(subject, 2, 2));
-        refused("decode of no stream", Due.ARGUMENT, 0, () -> withStream(new int[0], 0, 0), d -> d.decode(subject, 0, 0));
-        refused("decode of what can't be resolved", Due.STATE, Settled.PLACE, () -> withStream(new int[] {0, 0}),
+        leaves("decode of a stream begun", Due.ARGUMENT, 5, Settled::begun, d -> d.decode(subject, 0, 0));
+        leaves("decode of a wrong stream", Due.ARGUMENT, 2, Settled::begun, d -> d.decode(subject, 2, 2));
+        leaves("decode of no stream", Due.ARGUMENT, 0, () -> withStream(new int[0], 0, 0), d -> d.decode(subject, 0, 0));
+        leaves("decode of what can't be resolved", Due.STATE, Settled.PLACE, () -> withStream(new int[] {0, 0}),
             d -> d.decode(subject, 0, 2));
-        refused("decode of what is half resolved", Due.STATE, Settled.PLACE, () -> withStream(new int[] {2, 120, 2, 4, 0}),
+        leaves("decode of what is half resolved", Due.STATE, Settled.PLACE, () -> withStream(new int[] {2, 120, 2, 4, 0}),
             d -> d.decode(subject, 0, 3));
-        refused("decode of what gets too long", Due.STATE, Settled.PLACE, SubjectEdgesTest::withLongStream,
+        leaves("decode of what gets too long", Due.STATE, Settled.PLACE, SubjectEdgesTest::withLongStream,
             d -> d.decode(Settled.LONG, 0, 0));
     }
 
@@ -257,38 +284,38 @@ public final class SubjectEdgesTest {
     /** "Illegal argument: also if mode is not 0 .. 6", "Index out of bounds: there is none" and what they leave. */
     private static void othersThatThrow() {
         for (int mode : new int[] {-1, 7, 8, -7, 256, Integer.MAX_VALUE, Integer.MIN_VALUE}) {
-            refused("mode " + mode, Due.ARGUMENT, d -> d.mode(Settled.PAIRED, mode));
+            leaves("mode " + mode, Due.ARGUMENT, d -> d.mode(Settled.PAIRED, mode));
         }
         for (int i : new int[] {-1, 2, 3, 400, Integer.MAX_VALUE, Integer.MIN_VALUE}) {
-            refused("out " + i, Due.INDEX, d -> d.out(i));
+            leaves("out " + i, Due.INDEX, d -> d.out(i));
         }
     }
 
     /** "False, adding none": write and feed. */
     private static void refusedWithoutThrowing() {
-        refused("write of no character", false, d -> d.inner.write(0x1F313131L));
-        refused("write of no character", false, d -> d.inner.write(0x3131317FL));
-        refused("write of what is above", false, d -> d.inner.write(0x3100000000000080L));
-        refused("feed of none", false, d -> d.inner.feed(0x0102L, 0));
-        refused("feed of nine", false, d -> d.inner.feed(0x0102L, 9));
-        refused("feed of less than none", false, d -> d.inner.feed(0x0102L, -1));
+        leaves("write of no character", false, d -> d.inner.write(0x1F313131L));
+        leaves("write of no character", false, d -> d.inner.write(0x3131317FL));
+        leaves("write of what is above", false, d -> d.inner.write(0x3100000000000080L));
+        leaves("feed of none", false, d -> d.inner.feed(0x0102L, 0));
+        leaves("feed of nine", false, d -> d.inner.feed(0x0102L, 9));
+        leaves("feed of less than none", false, d -> d.inner.feed(0x0102L, -1));
     }
 
     /** "of several reasons the exception named first is thrown": illegal argument before illegal state. */
     private static void firstReasonOfRegister() {
-        refused("no schema, and there are six", Due.ARGUMENT, 1, () -> withText("A", "L"), d -> d.register(Settled.FULL));
-        refused("no schema, and none would get on", Due.ARGUMENT, 2, () -> withText("R(", "x:S)"),
+        leaves("no schema, and there are six", Due.ARGUMENT, 1, () -> withText("A", "L"), d -> d.register(Settled.FULL));
+        leaves("no schema, and none would get on", Due.ARGUMENT, 2, () -> withText("R(", "x:S)"),
             d -> d.register(Settled.PAIRED));
-        refused("no subject, and no schema", Due.ARGUMENT, Settled.PLACE, () -> withText("A", "L"), d -> d.register(4));
+        leaves("no subject, and no schema", Due.ARGUMENT, Settled.PLACE, () -> withText("A", "L"), d -> d.register(4));
     }
 
     /** "of several reasons the exception named first is thrown": decode. */
     private static void firstReasonOfDecode() {
         int subject = Settled.READING;
-        refused("can't be read, nor be resolved", Due.ARGUMENT, 5, Settled::begun, d -> d.decode(subject, 0, 2));
-        refused("no version, and can't be resolved", Due.ARGUMENT, Settled.PLACE, () -> withStream(new int[] {0, 0}),
+        leaves("can't be read, nor be resolved", Due.ARGUMENT, 5, Settled::begun, d -> d.decode(subject, 0, 2));
+        leaves("no version, and can't be resolved", Due.ARGUMENT, Settled.PLACE, () -> withStream(new int[] {0, 0}),
             d -> d.decode(subject, 0, 9));
-        refused("too much, and can't be resolved", Due.ARGUMENT, 2, () -> withStream(new int[] {0, 0, 0}),
+        leaves("too much, and can't be resolved", Due.ARGUMENT, 2, () -> withStream(new int[] {0, 0, 0}),
             d -> d.decode(subject, 0, 2));
     }
 

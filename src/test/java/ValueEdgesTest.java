@@ -17,6 +17,7 @@ public final class ValueEdgesTest {
         twentyElements();
         branchNumber();
         recordValues();
+        sixInOneAnother();
         valueOfAnyLength();
         bytesOfNullAndBoolean();
         bytesOfNumbers();
@@ -152,6 +153,18 @@ public final class ValueEdgesTest {
         next("R(a:N,b:N,c:N,d:N,e:N,f:B)", "{N,N,N,N,N", ",");
         next("R(a:N,b:N,c:N,d:N,e:N,f:B)", "{N,N,N,N,N,F", "}");
         next("R(a:B)", "{T", "}");
+    }
+
+    /** "(six of them, then, one in the other)": a value goes as deep. */
+    private static void sixInOneAnother() {
+        next("AAAAAAB", "[[[[[[", "FT]");
+        next("AAAAAAB", "[[[[[[T]]]]]", ",]");
+        next("R(a:R(a:R(a:R(a:R(a:R(a:B))))))", "{{{{{{", "FT");
+        next("R(a:R(a:R(a:R(a:R(a:R(a:B))))))", "{{{{{{T}}}}}}", Ways.END);
+        next("U(AU(AU(AB,N),N),N)", "0:[0:[0:[", "FT]");
+        next("U(AU(AU(AB,N),N),N)", "0:[0:[0:[T]]]", Ways.END);
+        next("AU(AU(AU(N,B),N),N)", "[0:[0:[1:", "FT");
+        bytes("AU(AU(AU(N,B),N),N)", "[0:[0:[1:T]]]", "[2, 0, 2, 0, 2, 2, 1, 0, 0, 0]");
     }
 
     /** "(of any length)": a full text may be a value, or the beginning of a longer one. */
