@@ -106,9 +106,12 @@ public final class CallEdgesTest {
     /** Promise 7: "The text is empty then." */
     private static void registerEmptiesTheText() {
         Desk desk = new Desk();
+        desk.give(1, 2, 3);
         desk.say("E(abc=b)");
         DUE.is("register", 0, desk.register(0));
         DUE.is("the text of a new version", 0, desk.inner.wipe());
+        DUE.is("the stream stays", 3, desk.inner.drain());
+        DUE.is("out stays", Due.INDEX, desk.out(0));
         desk.say("E(abc=b)");
         DUE.is("register", 0, desk.register(0));
         DUE.is("the text of a version that was there", 0, desk.inner.wipe());

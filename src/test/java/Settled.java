@@ -62,7 +62,10 @@ final class Settled {
         return told(PLACE);
     }
 
-    /** All that can be found out; it is used up by this. The place must be the one that is given. */
+    /**
+     * All that can be found out, each line beginning with what it is about; the desk is used up by this. The place must be
+     * the one that is given.
+     */
     List<String> told(int place) {
         List<String> all = new ArrayList<>();
         all.add("place as is due: " + (desk.inner.place() == place));
@@ -80,7 +83,7 @@ final class Settled {
         int count = desk.inner.versions(subject);
         for (int i = 0; i < count; i++) {
             desk.print(subject, i, false);
-            all.add(subject + " has " + desk.shown());
+            all.add("versions of " + subject + ": " + desk.shown());
         }
     }
 
@@ -88,13 +91,13 @@ final class Settled {
         desk.say(textEnd);
         all.add("text as a value: " + desk.encode(READING, 0) + " " + desk.numbers());
         all.add("text as a schema: " + desk.register(READING));
-        all.add("how many are left of it: " + desk.inner.wipe());
+        all.add("text that is left: " + desk.inner.wipe());
     }
 
     private void tellStream(List<String> all) {
         desk.give(streamEnd);
-        all.add("stream: " + desk.decode(READING, 0, 0) + " " + desk.shown());
-        all.add("how many are left of it: " + desk.inner.drain());
+        all.add("stream: " + desk.decode(READING, 0, 0) + " " + (desk.inner.place() < 0 ? desk.shown() : ""));
+        all.add("stream that is left: " + desk.inner.drain());
     }
 
     /** The mode of a subject that has the PAIR. */

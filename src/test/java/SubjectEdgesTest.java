@@ -21,6 +21,7 @@ public final class SubjectEdgesTest {
         withTheLatestOrAll();
         withItsOwnAlone();
         askingChangesNothing();
+        changesNothingElse();
         registerThatThrows();
         encodeThatThrows();
         decodeThatThrows();
@@ -229,6 +230,39 @@ public final class SubjectEdgesTest {
         leaves("place", Settled.PLACE, d -> d.inner.place());
         leaves("out", 12, d -> d.out(0));
         leaves("write of nothing", true, d -> d.inner.write(0));
+    }
+
+    /** Calls that are not refused change what their promise says, and nothing else. */
+    private static void changesNothingElse() {
+        Supplier<Settled> schema = () -> withText("AL", "");
+        Supplier<Settled> sameText = () -> withText("R(b:I,a:I)", "");
+        Supplier<Settled> value = () -> withText("{\"a\",[]}", "");
+        Supplier<Settled> stream = () -> withStream(new int[] {0, 0});
+        int subject = Settled.READING;
+        changesOnly("write", "text", true, Settled::begun, d -> d.inner.write('1'));
+        changesOnly("wipe", "text", 9, Settled::begun, d -> d.inner.wipe());
+        changesOnly("feed", "stream", true, Settled::begun, d -> d.inner.feed(1, 1));
+        changesOnly("drain", "stream", 5, Settled::begun, d -> d.inner.drain());
+        changesOnly("mode", "mode", "done", Settled::begun, d -> d.mode(Settled.PAIRED, 2));
+        changesOnly("print", "out", 11, Settled::begun, d -> d.print(subject, 0, false));
+        changesOnly("register", "text versions place", 4, schema, d -> d.register(subject));
+        changesOnly("register of the same text", "text place", 2, sameText, d -> d.register(subject));
+        changesOnly("encode", "text out place", 3, value, d -> d.encode(subject, 0));
+        changesOnly("decode", "stream out place", 7, stream, d -> d.decode(subject, 0, 0));
+    }
+
+    private static void changesOnly(String call, String what, Object due, Supplier<Settled> made,
+            Function<Desk, Object> does) {
+        Settled settled = made.get();
+        DUE.is(call, due, does.apply(settled.desk));
+        List<String> told = settled.told();
+        List<String> before = made.get().told();
+        DUE.is(call + " changes something", false, told.equals(before));
+        for (String one : what.split(" ")) {
+            told.removeIf(line -> line.startsWith(one));
+            before.removeIf(line -> line.startsWith(one));
+        }
+        DUE.is("all else behind " + call, before, told);
     }
 
     private static Settled withText(String text, String textEnd) {
