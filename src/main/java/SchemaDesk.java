@@ -41,14 +41,15 @@ public final class SchemaDesk {
     private final int[] fieldStarts;
     /** OUT. */
     private Row shown;
-    /** What OUT becomes is made here, and the two are changed at the end, so that a call that throws leaves OUT alone. */
+    /** What OUT becomes is made here, and the two change places at the end, so that a call that throws leaves OUT. */
     private Row draft;
     private int lastPlace;
 
     public SchemaDesk() {
         Row characters = new Row(new int[MOST_CHARACTERS], 0);
         text = characters;
-        candidate = new Schema(characters, new int[MOST_CHARACTERS], new int[MOST_CHARACTERS]);
+        candidate = new Schema(characters,
+                new int[MOST_CHARACTERS], new int[MOST_CHARACTERS], new int[MOST_CHARACTERS]);
         stream = new Row(new int[MOST_BYTES], 0);
         shown = new Row(new int[MOST_SHOWN], 0);
         draft = new Row(new int[MOST_SHOWN], 0);
@@ -203,10 +204,11 @@ public final class SchemaDesk {
     }
 
     private Subject subjectAt(int subject) {
-        if (subject < 0 || subject >= SUBJECTS) {
+        Subject found = subject >= 0 && subject < SUBJECTS ? subjects[subject] : null;
+        if (found == null) {
             throw new IllegalArgumentException();
         }
-        return subjects[subject];
+        return found;
     }
 
     private Schema versionAt(int subject, int version) {
@@ -324,11 +326,13 @@ public final class SchemaDesk {
 
     /** A place in a row; it moves on only over what may stand there, so that it ends at the place of the fault. */
     private static final class Cursor {
-        private final Row row;
+        private final int[] items;
+        private final int size;
         private int at;
 
         Cursor(Row row) {
-            this.row = row;
+            items = row.items;
+            size = row.size;
         }
 
         int at() {
@@ -340,21 +344,22 @@ public final class SchemaDesk {
         }
 
         boolean isAtEnd() {
-            return at >= row.size();
+            return at >= size;
         }
 
+        /** What stands here, NONE at the end. */
         int peek() {
-            return row.at(at);
+            return at >= 0 && at < size ? items[at] : NONE;
         }
 
         void step() {
-            if (!isAtEnd()) {
+            if (at < size) {
                 at++;
             }
         }
 
         boolean take(int item) {
-            if (isAtEnd() || row.at(at) != item) {
+            if (at < 0 || at >= size || items[at] != item) {
                 return false;
             }
             at++;
@@ -364,27 +369,36 @@ public final class SchemaDesk {
 
     /**
      * A schema is its text: a type, a branch, a field and a literal are each told by the index where they begin,
-     * and marks that the reading left say where the types and the defaults end.
+     * and marks that the reading left say where the types and the defaults end and where the next branch or field is.
      */
     private static final class Schema {
         private final Row text;
         private final int[] ends;
+        private final int[] nexts;
         private final int[] unionMarks;
 
-        Schema(Row text, int[] ends, int[] unionMarks) {
+        Schema(Row text, int[] ends, int[] nexts, int[] unionMarks) {
             this.text = text;
             this.ends = ends;
+            this.nexts = nexts;
             this.unionMarks = unionMarks;
         }
 
         void clearMarks() {
             Arrays.fill(ends, NONE);
+            Arrays.fill(nexts, NONE);
             Arrays.fill(unionMarks, 0);
         }
 
         void markEnd(int start, int end) {
             if (start >= 0 && start < ends.length) {
                 ends[start] = end;
+            }
+        }
+
+        void markNext(int part, int next) {
+            if (part >= 0 && part < nexts.length) {
+                nexts[part] = next;
             }
         }
 
@@ -413,7 +427,8 @@ public final class SchemaDesk {
 
         Schema copy() {
             int size = text.size();
-            return new Schema(text.copy(), Arrays.copyOf(ends, size), Arrays.copyOf(unionMarks, size));
+            return new Schema(text.copy(), Arrays.copyOf(ends, size), Arrays.copyOf(nexts, size),
+                    Arrays.copyOf(unionMarks, size));
         }
 
         void copyTo(Row target) {
@@ -448,17 +463,9 @@ public final class SchemaDesk {
             return type + 2;
         }
 
-        int nextBranch(int branch) {
-            return partBehind(end(branch));
-        }
-
-        int nextField(int field) {
-            int literal = fieldDefault(field);
-            return partBehind(literal == NONE ? end(fieldType(field)) : end(literal));
-        }
-
-        private int partBehind(int end) {
-            return text.at(end) == ',' ? end + 1 : NONE;
+        /** The branch or field behind one, NONE behind the last. */
+        int nextPart(int part) {
+            return part >= 0 && part < nexts.length ? nexts[part] : NONE;
         }
 
         int branchCount(int type) {
@@ -466,7 +473,7 @@ public final class SchemaDesk {
             int branch = firstPart(type);
             for (int i = 0; i < MOST_BRANCHES && branch != NONE; i++) {
                 count++;
-                branch = nextBranch(branch);
+                branch = nextPart(branch);
             }
             return count;
         }
@@ -477,7 +484,7 @@ public final class SchemaDesk {
                 if (i == number) {
                     return branch;
                 }
-                branch = nextBranch(branch);
+                branch = nextPart(branch);
             }
             return NONE;
         }
@@ -488,7 +495,7 @@ public final class SchemaDesk {
                 if (text.at(field) == name) {
                     return field;
                 }
-                field = nextField(field);
+                field = nextPart(field);
             }
             return NONE;
         }
@@ -504,7 +511,7 @@ public final class SchemaDesk {
 
         int symbolCount(int type) {
             int count = 0;
-            for (int i = 0; i < MOST_SYMBOLS && isSmallLetter(symbol(type, i)); i++) {
+            for (int i = 0; i < MOST_SYMBOLS && isSmallLetter(text.at(type + 2 + i)); i++) {
                 count++;
             }
             return count;
@@ -515,9 +522,8 @@ public final class SchemaDesk {
         }
 
         int symbolNumber(int type, int symbol) {
-            int count = symbolCount(type);
-            for (int i = 0; i < count; i++) {
-                if (symbol(type, i) == symbol) {
+            for (int i = 0; i < MOST_SYMBOLS && isSmallLetter(text.at(type + 2 + i)); i++) {
+                if (text.at(type + 2 + i) == symbol) {
                     return i;
                 }
             }
@@ -525,8 +531,8 @@ public final class SchemaDesk {
         }
 
         int symbolDefault(int type) {
-            int end = type + 2 + symbolCount(type);
-            return text.at(end) == '=' ? text.at(end + 1) : NONE;
+            int last = end(type) - 2;
+            return text.at(last - 1) == '=' ? text.at(last) : NONE;
         }
     }
 
@@ -554,7 +560,8 @@ public final class SchemaDesk {
 
         int numberOf(Schema schema) {
             for (int i = 0; i < count; i++) {
-                if (kept[i].sameTextAs(schema)) {
+                Schema version = kept[i];
+                if (version != null && version.sameTextAs(schema)) {
                     return i;
                 }
             }
@@ -568,7 +575,8 @@ public final class SchemaDesk {
             boolean latestAlone = asked <= LAST_MODE_FOR_LATEST;
             int first = latestAlone && count > 0 ? count - 1 : 0;
             for (int i = first; i < count; i++) {
-                if (!getOn(schema, kept[i])) {
+                Schema version = kept[i];
+                if (version == null || !getOn(schema, version)) {
                     return false;
                 }
             }
@@ -643,7 +651,7 @@ public final class SchemaDesk {
                 if (canReadType(reader, branch, writer, from, depth + 1)) {
                     return i;
                 }
-                branch = reader.nextBranch(branch);
+                branch = reader.nextPart(branch);
             }
             return NONE;
         }
@@ -654,7 +662,7 @@ public final class SchemaDesk {
                 if (!canReadType(reader, to, writer, branch, depth + 1)) {
                     return false;
                 }
-                branch = writer.nextBranch(branch);
+                branch = writer.nextPart(branch);
             }
             return true;
         }
@@ -682,7 +690,7 @@ public final class SchemaDesk {
                 if (!filled) {
                     return false;
                 }
-                field = reader.nextField(field);
+                field = reader.nextPart(field);
             }
             return true;
         }
@@ -777,6 +785,7 @@ public final class SchemaDesk {
             // No branch is a U: it counts as if there were one already.
             int seen = capitalBit('U');
             for (int count = 1; count <= MOST_BRANCHES; count++) {
+                int branch = cursor.at();
                 int bit = capitalBit(cursor.peek());
                 if ((seen & bit) != 0 || !readType(depth + 1)) {
                     return false;
@@ -788,6 +797,7 @@ public final class SchemaDesk {
                 if (count == MOST_BRANCHES || !cursor.take(',')) {
                     return false;
                 }
+                schema.markNext(branch, cursor.at());
             }
             return false;
         }
@@ -798,6 +808,7 @@ public final class SchemaDesk {
             }
             int seen = 0;
             for (int count = 1; count <= MOST_FIELDS; count++) {
+                int field = cursor.at();
                 int bit = smallLetterBit(cursor.peek());
                 if (bit == 0 || (seen & bit) != 0) {
                     return false;
@@ -813,6 +824,7 @@ public final class SchemaDesk {
                 if (count == MOST_FIELDS || !cursor.take(',')) {
                     return false;
                 }
+                schema.markNext(field, cursor.at());
             }
             return false;
         }
@@ -825,10 +837,9 @@ public final class SchemaDesk {
             if (!readType(depth + 1)) {
                 return false;
             }
-            return !cursor.take('=') || readFieldDefault(type);
-        }
-
-        private boolean readFieldDefault(int type) {
+            if (!cursor.take('=')) {
+                return true;
+            }
             int start = cursor.at();
             if (!literals.readLiteral(type)) {
                 return false;
@@ -1011,7 +1022,7 @@ public final class SchemaDesk {
                 if (!readPart(schema.fieldType(field), depth + 1)) {
                     return false;
                 }
-                field = schema.nextField(field);
+                field = schema.nextPart(field);
                 if (field == NONE) {
                     return cursor.take('}');
                 }
@@ -1185,7 +1196,7 @@ public final class SchemaDesk {
                 if (!skip(schema.fieldType(field), depth + 1)) {
                     return false;
                 }
-                field = schema.nextField(field);
+                field = schema.nextPart(field);
             }
             return true;
         }
@@ -1340,16 +1351,23 @@ public final class SchemaDesk {
         }
 
         private boolean resolveFields(int from, int to, int depth) {
-            if (!findFieldStarts(from) || !target.add('{')) {
-                return false;
+            int source = writer.firstPart(from);
+            for (int i = 0; i < MOST_FIELDS && source != NONE; i++) {
+                if (!noteFieldStart(source) || !bytes.skipField(writer.fieldType(source))) {
+                    return false;
+                }
+                source = writer.nextPart(source);
             }
             int behind = cursor.at();
+            if (!target.add('{')) {
+                return false;
+            }
             int field = reader.firstPart(to);
             for (int i = 0; i < MOST_FIELDS; i++) {
                 if (!resolveField(from, field, depth)) {
                     return false;
                 }
-                field = reader.nextField(field);
+                field = reader.nextPart(field);
                 if (field == NONE) {
                     cursor.moveTo(behind);
                     return target.add('}');
@@ -1361,18 +1379,11 @@ public final class SchemaDesk {
             return false;
         }
 
-        private boolean findFieldStarts(int record) {
-            int field = writer.firstPart(record);
-            for (int i = 0; i < MOST_FIELDS && field != NONE; i++) {
-                if (field < 0 || field >= fieldStarts.length) {
-                    return false;
-                }
-                fieldStarts[field] = cursor.at();
-                if (!bytes.skipField(writer.fieldType(field))) {
-                    return false;
-                }
-                field = writer.nextField(field);
+        private boolean noteFieldStart(int field) {
+            if (field < 0 || field >= fieldStarts.length) {
+                return false;
             }
+            fieldStarts[field] = cursor.at();
             return true;
         }
 
