@@ -1,3 +1,4 @@
+import com.sun.source.tree.Tree;
 import java.lang.reflect.Constructor;
 import java.lang.reflect.Field;
 import java.lang.reflect.Method;
@@ -7,18 +8,26 @@ import java.nio.file.Path;
 import java.util.Set;
 import java.util.TreeSet;
 
-/** Some rules of LANGUAGE.md that can be looked at from outside; run in the project's folder. */
+/** Rules of LANGUAGE.md that can be looked at without running the program; run in the project's folder. */
 public final class LanguageTest {
     private static final Due DUE = new Due("LanguageTest");
     private static final String FACE = "[decode, drain, encode, feed, fingerprint, mode, out, place, print, reads, register, "
         + "versions, wipe, write]";
-    private static final String[] FORBIDDEN = {"->", "::", " try ", "catch", "finally", "synchronized", "assert ", "protected ",
-        "Exact(", "static {", "while (true)", "for (;;)", "System.", "String", "double", "float", "@"};
+    private static final String LIBRARY = "[Arrays.copyOf, Arrays.fill, IllegalArgumentException.<init>, "
+        + "IllegalStateException.<init>, IndexOutOfBoundsException.<init>]";
+    /** Some of these are allowed in part; the program does without them. */
+    private static final Tree.Kind[] FORBIDDEN = {Tree.Kind.LAMBDA_EXPRESSION, Tree.Kind.MEMBER_REFERENCE, Tree.Kind.TRY,
+        Tree.Kind.SYNCHRONIZED, Tree.Kind.ASSERT, Tree.Kind.WHILE_LOOP, Tree.Kind.DO_WHILE_LOOP, Tree.Kind.ENHANCED_FOR_LOOP,
+        Tree.Kind.STRING_LITERAL, Tree.Kind.DOUBLE_LITERAL, Tree.Kind.FLOAT_LITERAL, Tree.Kind.INSTANCE_OF};
+    private static final Path PROGRAM = Path.of("src/main/java/SchemaDesk.java");
 
     public static void main(String[] args) throws Exception {
         face();
         nestedClasses();
-        source();
+        words();
+        Source source = Source.of(PROGRAM);
+        kindsOfLines(source);
+        methods(source);
         DUE.end();
     }
 
@@ -45,24 +54,47 @@ public final class LanguageTest {
         DUE.is("some twelve classes at most", true, nested.length <= 12);
         for (Class<?> one : nested) {
             DUE.is(one.getName() + " is static", true, Modifier.isStatic(one.getModifiers()));
+            DUE.is(one.getName() + " has some twenty fields at most", true, one.getDeclaredFields().length <= 20);
             for (Field field : one.getDeclaredFields()) {
                 int modifiers = field.getModifiers();
                 DUE.is(field + " is no static state", true, !Modifier.isStatic(modifiers) || Modifier.isFinal(modifiers));
             }
             for (Method method : one.getDeclaredMethods()) {
                 DUE.is(method + " has no name of the face", false, FACE.matches(".*\\b" + method.getName() + "\\b.*"));
-                DUE.is(method + " has at most seven parameters", true, method.getParameterCount() <= 7);
             }
         }
     }
 
-    private static void source() throws Exception {
-        String source = Files.readString(Path.of("src/main/java/SchemaDesk.java"));
-        String code = source.replaceAll("(?s)/\\*.*?\\*/", "").replaceAll("//[^\\n]*", "").replace("readString", "");
-        code = code.replace("skipString", "").replace("resolveString", "");
-        for (String word : FORBIDDEN) {
-            DUE.is("'" + word + "' stands in the program", false, code.contains(word));
+    private static void words() throws Exception {
+        String source = Files.readString(PROGRAM);
+        String code = source.replaceAll("(?s)/\\*.*?\\*/", "").replaceAll("//[^\\n]*", "");
+        String imports = code.lines().filter(line -> line.startsWith("import")).reduce("", String::concat);
+        DUE.is("imports", "import java.util.Arrays;", imports);
+        DUE.is("'static {' stands in the program", false, code.contains("static {"));
+        DUE.is("an annotation stands in the program", false, code.contains("@"));
+    }
+
+    private static void kindsOfLines(Source source) {
+        for (Tree.Kind kind : FORBIDDEN) {
+            DUE.is(kind + " in the program", 0, source.kinds.getOrDefault(kind, 0));
         }
-        DUE.is("imports", "import java.util.Arrays;", code.lines().filter(l -> l.startsWith("import")).reduce("", String::concat));
+        DUE.is("loops without a condition", 0, source.loopsWithoutCondition);
+        DUE.is("library", LIBRARY, source.library);
+    }
+
+    private static void methods(Source source) {
+        DUE.is("the methods are there", true, source.methods.size() > 50);
+        for (String key : source.methods.keySet()) {
+            Source.Method method = source.methods.get(key);
+            DUE.is(key + " has at most seven parameters", true, method.parameters.size() <= 7);
+            DUE.is(key + " is short: " + method.lines, true, method.lines <= 60);
+            if (method.isPublic) {
+                DUE.is(key + " goes at most eight deep: " + source.depth(key), true, source.depth(key) <= 8);
+            }
+            if (source.isRecursive(key)) {
+                DUE.is(key + " calls itself and is private", true, method.isPrivate);
+                DUE.is(key + " carries the depth", true, method.parameters.contains("depth"));
+            }
+        }
     }
 }
